@@ -250,12 +250,12 @@ public final class CarpetLands {
     int all = 0;
     for (int column = 0; column < SIDE; column++) all += now.worthOfColumn(column);
     int left = 0;
-    int best = 0;
-    int least = Integer.MAX_VALUE;
+    int best = -1;
+    int least = 0;
     for (int column = 0; column < SIDE - 1; column++) {
       left += now.worthOfColumn(column);
       int apart = Math.abs(all - left - left);
-      if (apart < least) {
+      if (best < 0 || apart < least) {
         least = apart;
         best = column;
       }
@@ -841,6 +841,7 @@ public final class CarpetLands {
     static final int FACTOR = 5;
 
     final Row signs = new Row(MOST_BYTES);
+    /** The tape that is read; signs until there is one, so that it is never null. */
     private Row bytes = signs;
     private String names = "";
     private int place = 0;

@@ -72,6 +72,7 @@ public final class Promises {
     mothsDays();
     daysInOrder();
     daysToTheirEnd();
+    daysToTheLast();
     looseDays();
     landsAndBorders();
     slipsAndMends();
@@ -557,6 +558,14 @@ public final class Promises {
     x.tell(x.count(2));
     due("check()", x.check(), 0);
     due("count(1)", x.count(1), 9999);
+  }
+
+  private static void daysToTheLast() {
+    CarpetLands x = new CarpetLands();
+    for (int i = 0; i < 99; i++) x.days(100);
+    due("days(99)", x.days(99), 0);
+    due("count(1)", x.count(1), 9999);
+    due("days(1)", x.days(1), STATE);
   }
 
   private static void looseDays() {
