@@ -18,7 +18,6 @@ public final class AgainstModel {
 
   public static void main(String[] args) {
     for (int run = 0; run < RUNS && wrong < 10; run++) new Run(run).play();
-    // One long text that only grows: every place of a fault, for all short tapes.
     allShortTexts();
     System.out.println(wrong == 0 ? "the class and the model agree" : wrong + " answers differ");
     if (wrong != 0) System.exit(1);
@@ -30,9 +29,9 @@ public final class AgainstModel {
     System.out.println(call + " answered " + got + ", the model " + want);
   }
 
+  /** Every text of up to six signs of a small alphabet, for the place of its fault. */
   private static void allShortTexts() {
     String alphabet = "1r+<&!()";
-    int[] at = new int[6];
     for (int length = 0; length <= 6; length++) {
       int all = 1;
       for (int i = 0; i < length; i++) all *= alphabet.length();
