@@ -407,7 +407,7 @@ public final class CarpetLands {
   }
 
   private static boolean isKnot(int knot) {
-    return isWithin(knot, 0, KNOTS - 1);
+    return knot >= 0 && knot < KNOTS;
   }
 
   private static boolean isColour(int colour) {
@@ -468,7 +468,14 @@ public final class CarpetLands {
 
     /** The knot one step that way, or -1. */
     static int beside(int knot, int way) {
-      return least(stepped(of(knot), way));
+      int row = knot / SIDE;
+      int column = knot % SIDE;
+      switch (way) {
+        case 0: return row > 0 ? knot - SIDE : -1;
+        case 1: return column < SIDE - 1 ? knot + 1 : -1;
+        case 2: return row < SIDE - 1 ? knot + SIDE : -1;
+        default: return column > 0 ? knot - 1 : -1;
+      }
     }
   }
 
@@ -736,10 +743,11 @@ public final class CarpetLands {
     }
 
     void stepAsCat(Carpet carpet) {
-      long same = carpet.ofColour(carpet.colourOf(at));
+      int own = carpet.colourOf(at);
       for (int i = 0; i < 4; i++) {
         int ahead = turned(i);
-        if (Sets.has(same, Sets.beside(at, ahead))) {
+        int knot = Sets.beside(at, ahead);
+        if (knot >= 0 && carpet.colourOf(knot) == own) {
           go(ahead);
           return;
         }
@@ -874,7 +882,7 @@ public final class CarpetLands {
     }
 
     private boolean isAhead(String some) {
-      return bytes.has(place) && some.indexOf((char) ahead()) >= 0;
+      return some.indexOf((char) bytes.get(place)) >= 0;
     }
 
     private void readLevel(int level, int open) {
