@@ -1,61 +1,9 @@
 /** Each promise of the document by hand: ordinary calls, the edges that it names, and wrong ones. */
-public final class Promises {
-  private static final int BEYOND = -1000000001;
-  private static final int NONE = -1000000002;
-  private static final int STATE = -1000000003;
-  private static final int FULL = -1000000004;
-  private static final int KIND = -1000000005;
-  private static final int LEAST = Integer.MIN_VALUE;
-  private static final int MOST = Integer.MAX_VALUE;
-  private static int wrong = 0;
-  private static int promise = 0;
-
-  private static void due(String call, long got, long want) {
-    if (got == want) return;
-    wrong++;
-    System.out.println("promise " + promise + ": " + call + " answered " + got + ", due is " + want);
-  }
-
-  /** Feeds a text to the tape, eight bytes at a time. */
-  private static void feed(CarpetLands x, String text) {
-    for (int i = 0; i < text.length(); i += 8) {
-      int n = Math.min(8, text.length() - i);
-      long word = 0;
-      for (int j = 0; j < n; j++) word |= (long) text.charAt(i + j) << (8 * j);
-      x.feed(word, n);
-    }
-  }
-
-  private static int learn(CarpetLands x, int use, String text) {
-    feed(x, text);
-    return x.text(use);
-  }
-
+public final class Promises extends Due {
   /** Checks what a text gives as the pattern, whose rest by 7, and 1, is that of the value. */
   private static void dueLaw(CarpetLands x, String text, int a, int b, int c, int value) {
     due("text(0) of " + text, learn(x, 0, text), 1);
     due("law(0) of " + text, x.law(0, a, b, c), Math.floorMod(value, 7) + 1);
-  }
-
-  private static void dueFault(CarpetLands x, int use, String text, int fault) {
-    due("text(" + use + ") of " + text, learn(x, use, text), -10 - fault);
-    due("count(5) behind " + text, x.count(5), 0);
-  }
-
-  /** A carpet by six rows of digits. */
-  private static CarpetLands carpet(String... rows) {
-    CarpetLands x = new CarpetLands();
-    lay(x, rows);
-    return x;
-  }
-
-  private static void lay(CarpetLands x, String... rows) {
-    for (int i = 0; i < 36; i++) x.knot(i, 0, rows[i / 6].charAt(i % 6) - '0');
-  }
-
-  private static void sheet(CarpetLands x, int s, int bits, String numbers) {
-    x.sheet(s, bits, numbers.length());
-    for (int i = 0; i < numbers.length(); i++) x.write(s, i, numbers.charAt(i) - '0');
   }
 
   public static void main(String[] args) {
@@ -90,12 +38,11 @@ public final class Promises {
     checks();
     counts();
     tolds();
-    System.out.println(wrong == 0 ? "all promises hold" : wrong + " answers are not as due");
-    if (wrong != 0) System.exit(1);
+    end();
   }
 
   private static void newObject() {
-    promise = 1;
+    sentence("promise 1");
     CarpetLands x = new CarpetLands();
     int[] counts = {0, 0, 0, 0, 2, 0, 0, 0, 1};
     for (int what = 0; what < counts.length; what++) due("count(" + what + ")", x.count(what), counts[what]);
@@ -113,7 +60,7 @@ public final class Promises {
   }
 
   private static void knots() {
-    promise = 2;
+    sentence("promise 2");
     CarpetLands x = new CarpetLands();
     due("knot(0, 0, 7)", x.knot(0, 0, 7), 1);
     due("knot(0, 0, 0)", x.knot(0, 0, 0), 7);
@@ -127,7 +74,7 @@ public final class Promises {
     due("ofKnot(0, 0)", x.ofKnot(0, 0), 3);
     due("ofKnot(0, 1)", x.ofKnot(0, 1), 0);
 
-    promise = 3;
+    sentence("promise 3");
     x = carpet("220011", "020011", "022221", "333321", "000321", "111321");
     x.knot(8, 1, 42);
     due("ofKnot(0, 0)", x.ofKnot(0, 0), 2);
@@ -159,7 +106,7 @@ public final class Promises {
   }
 
   private static void weaving() {
-    promise = 4;
+    sentence("promise 4");
     CarpetLands x = carpet("123456", "111111", "000000", "111111", "111111", "111111");
     x.knot(9, 1, 30);
     due("weave()", x.weave(), 6 + 15);
@@ -173,7 +120,7 @@ public final class Promises {
     due("greatest(0)", x.greatest(0), 36);
     due("ofKnot(0, 0)", x.ofKnot(0, 0), 2);
 
-    promise = 5;
+    sentence("promise 5");
     x = carpet("023456", "111111", "000000", "111111", "111111", "111110");
     x.knot(12, 1, 30);
     due("mend()", x.mend(), 8);
@@ -186,7 +133,7 @@ public final class Promises {
   }
 
   private static void walkers() {
-    promise = 6;
+    sentence("promise 6");
     CarpetLands x = new CarpetLands();
     due("walker(-1, 0)", x.walker(-1, 0), BEYOND);
     due("walker(70, 0)", x.walker(70, 0), BEYOND);
@@ -197,7 +144,7 @@ public final class Promises {
     due("walker(0, 36), beyond first", x.walker(0, 36), BEYOND);
     due("count(0)", x.count(0), 5);
 
-    promise = 7;
+    sentence("promise 7");
     int[][] of = {{0, 0, 0, 1, 1, 0}, {1, 7, 8, 1, 1, 0}, {3, 4, 16, 1, 0, 0}, {5, 1, 24, 1, 4, 0}, {6, 8, 32, 1, 0, 1}};
     for (int i = 0; i < 5; i++) {
       for (int what = 0; what < 6; what++) due("ofWalker(" + i + ", " + what + ")", x.ofWalker(i, what), of[i][what]);
@@ -212,7 +159,7 @@ public final class Promises {
     due("ofWalker(0, 6)", x.ofWalker(0, 6), BEYOND);
     due("ofWalker(LEAST, 0)", x.ofWalker(LEAST, 0), BEYOND);
 
-    promise = 8;
+    sentence("promise 8");
     due("put(1, 35, 3)", x.put(1, 35, 3), 8);
     due("ofWalker(1, 2)", x.ofWalker(1, 2), 35);
     due("ofWalker(1, 3)", x.ofWalker(1, 3), 3);
@@ -224,7 +171,7 @@ public final class Promises {
   }
 
   private static void kinds() {
-    promise = 9;
+    sentence("promise 9");
     CarpetLands x = new CarpetLands();
     x.walker(13, 7);
     x.put(0, 7, 2);
@@ -247,7 +194,7 @@ public final class Promises {
     x.become(0, 30);
     due("ofWalker(0, 5) of a moth with 0", x.ofWalker(0, 5), 1);
 
-    promise = 10;
+    sentence("promise 10");
     String[] isOf = {"0", "01", "02", "03", "014", "025", "036"};
     for (int kind = 0; kind < 7; kind++) {
       x.become(0, 10 * kind + kind);
@@ -263,7 +210,7 @@ public final class Promises {
   }
 
   private static void texts() {
-    promise = 11;
+    sentence("promise 11");
     CarpetLands x = new CarpetLands();
     due("feed(.., 0)", x.feed(0L, 0), BEYOND);
     due("feed(.., 9)", x.feed(0L, 9), BEYOND);
@@ -285,7 +232,7 @@ public final class Promises {
     due("feed eight bytes", x.feed(0x3939393939393931L, 8), 8);
     due("text(0)", x.text(0), -14);
 
-    promise = 12;
+    sentence("promise 12");
     feed(x, "r*c");
     due("text(2)", x.text(2), BEYOND);
     due("text(-1)", x.text(-1), BEYOND);
@@ -332,7 +279,7 @@ public final class Promises {
   }
 
   private static void laws() {
-    promise = 13;
+    sentence("promise 13");
     CarpetLands x = new CarpetLands();
     due("law(0, MOST, 1, 0)", x.law(0, MOST, 1, 0), Math.floorMod(LEAST, 7) + 1);
     due("law(0, -1, 0, 0)", x.law(0, -1, 0, 0), 7);
@@ -399,7 +346,7 @@ public final class Promises {
   }
 
   private static void walkersDays() {
-    promise = 14;
+    sentence("promise 14");
     CarpetLands x = new CarpetLands();
     x.walker(0, 3);
     due("days(1)", x.days(1), 0);
@@ -569,7 +516,7 @@ public final class Promises {
   }
 
   private static void looseDays() {
-    promise = 15;
+    sentence("promise 15");
     CarpetLands x = new CarpetLands();
     // z 1 gives 1103527590, then 2524885223 as a number without a sign: 9862832 is behind the shift, a hole.
     due("loose(1)", x.loose(1), 1);
@@ -606,7 +553,7 @@ public final class Promises {
   }
 
   private static void landsAndBorders() {
-    promise = 16;
+    sentence("promise 16");
     CarpetLands x = carpet("110022", "110022", "003300", "003300", "220011", "220011");
     due("lands(-1)", x.lands(-1), 5);
     due("lands(0)", x.lands(0), 4);
@@ -623,7 +570,7 @@ public final class Promises {
     due("ofKnot(35, 4) of a snake", snake.ofKnot(35, 4), 21);
     due("ofKnot(35, 5) of a snake", snake.ofKnot(35, 5), 0);
 
-    promise = 17;
+    sentence("promise 17");
     due("greatest(0)", x.greatest(0), 4);
     due("greatest(1), of several the least", x.greatest(1), 0);
     x.knot(20, 0, 0);
@@ -641,7 +588,7 @@ public final class Promises {
     due("greatest(0)", holes.greatest(0), 1);
     due("greatest(1)", holes.greatest(1), 35);
 
-    promise = 18;
+    sentence("promise 18");
     x = carpet("112222", "132224", "111110", "555555", "555555", "666777");
     due("nextTo(0)", x.nextTo(0), 1 | 1 << 2 | 1 << 3 | 1 << 5);
     due("nextTo(7)", x.nextTo(7), 1 << 1 | 1 << 2);
@@ -651,7 +598,7 @@ public final class Promises {
     due("nextTo(36)", x.nextTo(36), BEYOND);
     due("nextTo(-1)", x.nextTo(-1), BEYOND);
 
-    promise = 19;
+    sentence("promise 19");
     due("frontier(1, 2)", x.frontier(1, 2), 4);
     due("frontier(2, 1)", x.frontier(2, 1), 4);
     due("frontier(0, 1)", x.frontier(0, 1), 1);
@@ -665,7 +612,7 @@ public final class Promises {
   }
 
   private static void slipsAndMends() {
-    promise = 20;
+    sentence("promise 20");
     CarpetLands x = carpet("123456", "234567", "345671", "456712", "567123", "671234");
     due("slips()", x.slips(), 0);
     x.knot(0, 0, 2);
@@ -679,7 +626,7 @@ public final class Promises {
     due("slips() a day on", x.slips(), 34);
     due("slips() changes nothing", x.ofKnot(0, 0), 2);
 
-    promise = 21;
+    sentence("promise 21");
     x = carpet("000000", "234567", "345671", "456712", "567123", "671230");
     for (int k = 1; k <= 7; k++) due("mends(" + k + ")", x.mends(k), k == 7 ? 0 : k == 4 ? 2 : 1);
     due("mends(0)", x.mends(0), BEYOND);
@@ -689,7 +636,7 @@ public final class Promises {
   }
 
   private static void againAndStays() {
-    promise = 22;
+    sentence("promise 22");
     CarpetLands x = carpet("123123", "231231", "123123", "231231", "123123", "231231");
     due("again(0)", x.again(0), 3);
     due("again(1)", x.again(1), 2);
@@ -708,7 +655,7 @@ public final class Promises {
     due("again(2)", x.again(2), BEYOND);
     due("again(-1)", x.again(-1), BEYOND);
 
-    promise = 23;
+    sentence("promise 23");
     due("stays() of one colour", new CarpetLands().stays(), 255);
     due("stays() of none", carpet("123456", "111111", "222222", "333333", "444444", "555555").stays(), 1);
     due("stays() turned by quarters", carpet("123453", "511112", "411111", "311114", "211115", "354321").stays(), 1);
@@ -722,7 +669,7 @@ public final class Promises {
   }
 
   private static void roads() {
-    promise = 24;
+    sentence("promise 24");
     CarpetLands x = new CarpetLands();
     due("road(0, 0, 2)", x.road(0, 0, 2), 0);
     due("road(0, 0, 253)", x.road(0, 0, 253), NONE);
@@ -759,7 +706,7 @@ public final class Promises {
   }
 
   private static void layings() {
-    promise = 25;
+    sentence("promise 25");
     CarpetLands x = carpet("123456", "111111", "111111", "111111", "111111", "111111");
     String same = "123456" + "111111111111111111111111111111";
     for (int bits = 8; bits <= 32; bits *= 2) {
@@ -799,7 +746,7 @@ public final class Promises {
     x.write(3, 0, -1);
     due("fits(3, 0, 0) of a -1", x.fits(3, 0, 0), NONE);
 
-    promise = 26;
+    sentence("promise 26");
     due("layings(3, 0) of a -1", x.layings(3, 0), NONE);
     due("layings(3, 1) of a -1", x.layings(3, 1), NONE);
     due("layings(3, 2), beyond first", x.layings(3, 2), BEYOND);
@@ -830,7 +777,7 @@ public final class Promises {
   }
 
   private static void cuts() {
-    promise = 27;
+    sentence("promise 27");
     CarpetLands x = new CarpetLands();
     due("cut(0)", x.cut(0), 2);
     due("cut(1)", x.cut(1), 0);
@@ -855,7 +802,7 @@ public final class Promises {
   }
 
   private static void dyes() {
-    promise = 28;
+    sentence("promise 28");
     CarpetLands x = carpet("123456", "123456", "123456", "123456", "123456", "123456");
     due("dyed(0, 1, -1)", x.dyed(0, 1, -1), 12);
     due("dyed(0, 1, 0)", x.dyed(0, 1, 0), 2);
@@ -892,7 +839,7 @@ public final class Promises {
   }
 
   private static void thens() {
-    promise = 29;
+    sentence("promise 29");
     CarpetLands x = carpet("123456", "123456", "123456", "123456", "123456", "123456");
     x.walker(0, 0);
     x.walker(60, 0);
@@ -922,17 +869,17 @@ public final class Promises {
   }
 
   private static void dueVoice(CarpetLands x, int walker, int act, int number, int answer, int... bodies) {
-    promise = 31;
+    sentence("promise 31");
     String call = "voice(" + walker + ", " + act + ", " + number + ") of kind " + x.ofWalker(walker, 0);
     due(call, x.voice(walker, act, number), answer);
     due("count(7) behind " + call, x.count(7), bodies.length);
-    promise = 32;
+    sentence("promise 32");
     for (int i = 0; i < bodies.length; i++) due("trace(" + i + ") behind " + call, x.trace(i), bodies[i]);
     due("trace(" + bodies.length + ")", x.trace(bodies.length), NONE);
   }
 
   private static void voices() {
-    promise = 30;
+    sentence("promise 30");
     CarpetLands x = new CarpetLands();
     due("seed(-5)", x.seed(-5), 1);
     due("seed(LOW - 1)", x.seed(-1000000001), -5);
@@ -969,7 +916,7 @@ public final class Promises {
     x.become(2, 63);
     dueVoice(x, 2, 2, 5, -2 ^ 2, 70, 40, 12);
     dueVoice(x, 2, 3, 5, 14 - (14 ^ (-2 ^ 2)), 71, 11, 10, 13, 11, 10, 70, 40, 12);
-    promise = 31;
+    sentence("promise 31");
     due("voice(3, 0, 0)", x.voice(3, 0, 0), BEYOND);
     due("voice(-1, 0, 0)", x.voice(-1, 0, 0), BEYOND);
     due("voice(0, 4, 0)", x.voice(0, 4, 0), BEYOND);
@@ -977,14 +924,14 @@ public final class Promises {
     due("count(7), what was ahead stays", x.count(7), 9);
     due("voice(0, 2, LOW + 2), any number", x.voice(0, 2, -999999998), -1000000001);
     due("told(1), any number is no error", x.told(1), 4);
-    promise = 32;
+    sentence("promise 32");
     due("trace(-1)", x.trace(-1), NONE);
     due("trace(MOST)", x.trace(MOST), NONE);
     due("trace(LEAST)", x.trace(LEAST), NONE);
   }
 
   private static void sheets() {
-    promise = 33;
+    sentence("promise 33");
     CarpetLands x = new CarpetLands();
     due("sheet(0, 8, 40)", x.sheet(0, 8, 40), 1);
     due("sheet(1, 16, 0)", x.sheet(1, 16, 0), 1);
@@ -1009,7 +956,7 @@ public final class Promises {
     x.sheet(0, 8, 36);
     due("judge(0), all 0 again", x.judge(0), 0);
 
-    promise = 34;
+    sentence("promise 34");
     due("write(0, 35, 1)", x.write(0, 35, 1), 1);
     due("write(0, 36, 1)", x.write(0, 36, 1), BEYOND);
     due("write(0, -1, 1)", x.write(0, -1, 1), BEYOND);
@@ -1047,7 +994,7 @@ public final class Promises {
   }
 
   private static void moves() {
-    promise = 35;
+    sentence("promise 35");
     CarpetLands x = new CarpetLands();
     sheet(x, 0, 8, "1234567");
     sheet(x, 1, 8, "77777");
@@ -1080,7 +1027,7 @@ public final class Promises {
   }
 
   private static void coloursAndJudge() {
-    promise = 36;
+    sentence("promise 36");
     CarpetLands x = new CarpetLands();
     sheet(x, 0, 8, "2345670");
     due("colours(0)", x.colours(0), 7);
@@ -1105,7 +1052,7 @@ public final class Promises {
     due("colours(-1)", x.colours(-1), BEYOND);
     due("told(2)", x.told(2), 1);
 
-    promise = 37;
+    sentence("promise 37");
     x = new CarpetLands();
     String ones = "1111111111111111111111111111111111111111";
     sheet(x, 0, 32, ones.substring(0, 36));
@@ -1130,7 +1077,7 @@ public final class Promises {
   }
 
   private static void images() {
-    promise = 38;
+    sentence("promise 38");
     CarpetLands x = carpet("123456", "234567", "345671", "456712", "567123", "671234");
     x.walker(31, 8);
     x.put(0, 8, 2);
@@ -1161,7 +1108,7 @@ public final class Promises {
     int refusals = x.told(1);
     x.knot(99, 0, 0);
 
-    promise = 39;
+    sentence("promise 39");
     due("restore()", x.restore(), 7);
     int[] counts = {1, 7, holes, 33, x.count(4), 2, 2, 1, 77};
     for (int what = 0; what < counts.length; what++) due("count(" + what + ")", x.count(what), counts[what]);
@@ -1196,14 +1143,14 @@ public final class Promises {
   }
 
   private static void checks() {
-    promise = 40;
+    sentence("promise 40");
     CarpetLands x = new CarpetLands();
     for (int i = 1; i <= 20; i++) due("tell(" + -i + ")", x.tell(-i), i);
     due("tell(0)", x.tell(0), FULL);
     due("told(4)", x.told(4), 1);
     due("count(6)", x.count(6), 20);
 
-    promise = 41;
+    sentence("promise 41");
     due("check()", x.check(), 1);
     due("count(6), none wait then", x.count(6), 0);
     due("check() of none", x.check(), 0);
@@ -1231,7 +1178,7 @@ public final class Promises {
   }
 
   private static void counts() {
-    promise = 42;
+    sentence("promise 42");
     CarpetLands x = carpet("123456", "700000", "111111", "111111", "111111", "111111");
     x.knot(0, 1, 99);
     x.knot(35, 1, 98);
@@ -1249,7 +1196,7 @@ public final class Promises {
   }
 
   private static void tolds() {
-    promise = 43;
+    sentence("promise 43");
     CarpetLands x = new CarpetLands();
     due("told(0)", x.told(0), BEYOND);
     due("told(6)", x.told(6), BEYOND);
