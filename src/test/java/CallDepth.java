@@ -23,8 +23,11 @@ import javax.tools.JavaCompiler;
 import javax.tools.StandardJavaFileManager;
 import javax.tools.ToolProvider;
 
-/** Rules 8 and 11 of ../shared/LANGUAGE.md: who calls whom, how deep, and which methods come back to themselves. */
+/** Rules 4, 8 and 11 of ../shared/LANGUAGE.md: what is called, how deep, and which methods come back to themselves. */
 public final class CallDepth {
+  /** What the class takes from the library: a part of what rule 4 allows. */
+  private static final Set<String> LIBRARY = Set.of("Long.bitCount", "Math.abs", "Math.floorMod", "Math.max", "Math.min", "Object.<init>",
+      "String.indexOf", "System.arraycopy");
   private static final int MOST_DEEP = 8;
   private static int wrong = 0;
   /** The own methods that each own method calls; the calls of a method that isn't its own end there. */
@@ -45,7 +48,7 @@ public final class CallDepth {
       rule(11, chain.size() <= MOST_DEEP, chain.size() + " deep:" + names);
     }
     rule(8, CALLS.size() > 40, "the source has but " + CALLS.size() + " methods");
-    System.out.println(wrong == 0 ? "the calls are shallow" : wrong + " chains of calls are too deep");
+    System.out.println(wrong == 0 ? "the calls are as the rules want them" : wrong + " rules are broken");
     if (wrong != 0) System.exit(1);
   }
 
@@ -70,7 +73,10 @@ public final class CallDepth {
       Trees trees = Trees.instance(task);
       for (CompilationUnitTree unit : units) new Reader(trees).scan(unit, null);
     }
-    for (Set<Element> called : CALLS.values()) called.retainAll(CALLS.keySet());
+    for (Set<Element> called : CALLS.values()) {
+      for (Element each : called) rule(4, CALLS.containsKey(each) || LIBRARY.contains(nameOf(each)), "the library's " + nameOf(each));
+      called.retainAll(CALLS.keySet());
+    }
   }
 
   /** Notes each method and what it calls. */

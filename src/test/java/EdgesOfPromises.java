@@ -491,8 +491,11 @@ public final class EdgesOfPromises extends Due {
     x.knot(35, 0, 7);
     due(x, 1, "greatest", 0);
     due(x, 35, "greatest", 1);
-    x.knot(34, 0, 1);
-    due(x, 34, "greatest", 1);
+    x.knot(33, 0, 1);
+    due(x, 33, "greatest", 1);
+    x.knot(0, 0, 7);
+    due(x, 1, "greatest", 0);
+    due(x, 0, "greatest", 1);
 
     sentence("promise 17: BEYOND. NONE: there is none");
     dueEach(x, BEYOND, "greatest", 0, each(-1, 2, LEAST, MOST), 0);
@@ -1191,10 +1194,14 @@ public final class EdgesOfPromises extends Due {
     CarpetLands x = holes();
     due(x, 0, "count", 4);
     due(x, 36, "count", 2);
-    for (int k = 1; k <= 7; k++) {
-      x.knot(35, 0, k);
-      due(x, 1 << k, "count", 4);
+    for (int knot = 0; knot < KNOTS; knot += 7) {
+      for (int k = 1; k <= 7; k++) {
+        x.knot(knot, 0, k);
+        due(x, 1 << k, "count", 4);
+      }
+      x.knot(knot, 0, 0);
     }
+    x.knot(35, 0, 7);
     for (int k = 1; k <= 7; k++) x.knot(k, 0, k);
     due(x, 254, "count", 4);
     due(x, 28, "count", 2);

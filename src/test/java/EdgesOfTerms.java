@@ -744,6 +744,11 @@ public final class EdgesOfTerms extends Due {
     due(x, 1, "again", 0);
     x = carpet("200000", "000000", "000000", "000000", "000000", "300000");
     due(x, 1, "again", 1);
+    // Each two that are p apart, not only the first one and that.
+    x = carpet("121112", "222222", "000000", "000000", "000000", "000000");
+    due(x, 4, "again", 0);
+    x = carpet("120000", "220000", "120000", "120000", "120000", "220000");
+    due(x, 4, "again", 1);
 
     sentence("AGAIN: .. or one of them is a HOLE");
     due(plain(0), 1, "again", 0);
@@ -799,7 +804,9 @@ public final class EdgesOfTerms extends Due {
 
     sentence("ROAD: no two steps behind one another the same WAY: the fewest steps");
     x = new CarpetLands();
-    due(x, 1, "road", 0, 6, 2);
+    for (int[] beside : new int[][] {{8, NORTH}, {15, EAST}, {20, SOUTH}, {13, WEST}}) due(x, 1, "road", 14, beside[0], 2);
+    for (int two : new int[] {9, 21, 19, 7}) due(x, 2, "road", 14, two, 2);
+    for (int two : new int[] {2, 16, 26, 12}) due(x, 4, "road", 14, two, 2);
     due(x, 4, "road", 0, 2, 2);
     due(x, 4, "road", 0, 12, 2);
     due(x, 5, "road", 0, 3, 2);
@@ -923,6 +930,11 @@ public final class EdgesOfTerms extends Due {
       x.write(0, 6 * i, 1);
     }
     due(x, 510, "layings", 0, 1);
+    // By 3 and 3 there are 9 that lie upon one another, by 0 and 5 but 6.
+    for (int i = 0; i < KNOTS; i++) x.write(0, i, i % 6 == 0 || i < 18 && i % 6 < 3 ? 1 : 2);
+    due(x, 808, "layings", 0, 1);
+    for (int i = 0; i < KNOTS; i++) x.write(0, i, i < 6 || i % 6 < 3 && i < 18 ? 1 : 2);
+    due(x, 808, "layings", 0, 1);
   }
 
   private static void cuts() {
@@ -1080,11 +1092,56 @@ public final class EdgesOfTerms extends Due {
     x.become(4, 50);
     due(x, 2 * (LEAST + 4) - 1, "voice", 4, 1, MOST);
 
+    for (int kind = 0; kind <= 6; kind++) for (int v : new int[] {5, -7, MOST, LEAST}) dueVoices(kind, v);
+
     sentence("n is the number, m as told");
     for (int i = 0; i < 5; i++) {
       x.become(i, i);
       due(x, 100 + i, "voice", i, 0, 100);
       due(x, 100 - i, "voice", i, 2, 100);
+    }
+  }
+
+  private static final int[] PLAIN_WEARS = {11, 10};
+  private static final int[] CATS_WALKS = {20, 10};
+  private static final int[] CATS_WEARS = {11, 20, 10};
+  private static final int[] BOOTS_WEARS = {30, 11, 10, 12};
+  private static final int[] ARMYS_WEARS = {60, 30, 11, 10, 12};
+  /** What is begun for each act, by kinds. */
+  private static final int[][][] BODIES = {
+    {{10}, PLAIN_WEARS, {12}, {13, 11, 10, 12}},
+    {CATS_WALKS, CATS_WEARS, {12}, {13, 11, 20, 10, 12}},
+    {{10}, BOOTS_WEARS, {12}, {13, 30, 11, 10, 12, 12}},
+    {{10}, PLAIN_WEARS, {40, 12}, {13, 11, 10, 40, 12}},
+    {CATS_WALKS, CATS_WEARS, {12}, {50, 13, 11, 20, 10, 12, 20, 10}},
+    {{10}, ARMYS_WEARS, {12}, {13, 60, 30, 11, 10, 12, 12}},
+    {{10}, PLAIN_WEARS, {70, 40, 12}, {71, 11, 10, 13, 11, 10, 70, 40, 12}},
+  };
+
+  /** Each act of walker 4 as one of a kind with 7, at x. */
+  private static void dueVoices(int kind, int x) {
+    int n = 4;
+    int m = 7;
+    boolean isCat = kind == 1 || kind == 4;
+    int walks = isCat ? (x + n) * 3 : x + n;
+    int wears = walks * 2;
+    if (kind == 2) wears = (x + n) * 2 - (1 - m);
+    if (kind == 5) wears = (x + 1 + n) * 2 - (1 - m);
+    int eats = x - m;
+    if (kind == 3) eats = -(x - m);
+    if (kind == 6) eats = -(x - m) ^ n;
+    int tells = wears ^ eats;
+    if (kind == 4) tells = (wears ^ eats) - (2 + n) * 3;
+    if (kind == 6) tells = wears - (wears ^ eats);
+    int[] answers = {walks, wears, eats, tells};
+    CarpetLands c = new CarpetLands();
+    for (int i = 0; i <= n; i++) c.walker(10 * kind + m, 14);
+    for (int act = 0; act < 4; act++) {
+      due("voice(4, " + act + ", " + x + ") of kind " + kind, c.voice(n, act, x), answers[act]);
+      int[] bodies = BODIES[kind][act];
+      due(c, bodies.length, "count", 7);
+      for (int i = 0; i < bodies.length; i++) due("trace(" + i + ") of act " + act + " of kind " + kind, c.trace(i), bodies[i]);
+      due(c, NONE, "trace", bodies.length);
     }
   }
 
