@@ -1,13 +1,8 @@
 import com.sun.source.tree.ClassTree;
-import com.sun.source.tree.CompilationUnitTree;
 import com.sun.source.tree.MethodInvocationTree;
 import com.sun.source.tree.MethodTree;
 import com.sun.source.tree.NewClassTree;
-import com.sun.source.util.JavacTask;
-import com.sun.source.util.TreePathScanner;
-import com.sun.source.util.Trees;
 import java.io.IOException;
-import java.nio.file.Path;
 import java.util.ArrayDeque;
 import java.util.ArrayList;
 import java.util.HashMap;
@@ -19,23 +14,24 @@ import java.util.Set;
 import javax.lang.model.element.Element;
 import javax.lang.model.element.ExecutableElement;
 import javax.lang.model.element.Modifier;
-import javax.tools.JavaCompiler;
-import javax.tools.StandardJavaFileManager;
-import javax.tools.ToolProvider;
 
 /** Rules 4, 8 and 11 of ../shared/LANGUAGE.md: what is called, how deep, and which methods come back to themselves. */
-public final class CallDepth {
+public final class CallDepth extends Source {
   /** What the class takes from the library: a part of what rule 4 allows. */
   private static final Set<String> LIBRARY = Set.of("Long.bitCount", "Math.abs", "Math.floorMod", "Math.max", "Math.min", "Object.<init>",
       "String.indexOf", "System.arraycopy");
   private static final int MOST_DEEP = 8;
-  private static int wrong = 0;
   /** The own methods that each own method calls; the calls of a method that isn't its own end there. */
   private static final Map<Element, Set<Element>> CALLS = new LinkedHashMap<>();
   private static final Map<Element, List<Element>> DEEPEST = new HashMap<>();
+  private Set<Element> calls = new LinkedHashSet<>();
 
   public static void main(String[] args) throws IOException {
-    readCalls();
+    new CallDepth().read();
+    for (Set<Element> called : CALLS.values()) {
+      for (Element each : called) rule(4, CALLS.containsKey(each) || LIBRARY.contains(nameOf(each)), "the library's " + nameOf(each));
+      called.retainAll(CALLS.keySet());
+    }
     for (Element method : CALLS.keySet()) {
       boolean isOpen = method.getEnclosingElement().getSimpleName().contentEquals("CarpetLands") && method.getModifiers().contains(Modifier.PUBLIC);
       if (comesBack(method)) {
@@ -48,76 +44,42 @@ public final class CallDepth {
       rule(11, chain.size() <= MOST_DEEP, chain.size() + " deep:" + names);
     }
     rule(8, CALLS.size() > 40, "the source has but " + CALLS.size() + " methods");
-    System.out.println(wrong == 0 ? "the calls are as the rules want them" : wrong + " rules are broken");
-    if (wrong != 0) System.exit(1);
-  }
-
-  private static void rule(int number, boolean holds, String what) {
-    if (holds) return;
-    wrong++;
-    System.out.println("rule " + number + ": " + what);
+    end("the calls are as the rules want them");
   }
 
   private static String nameOf(Element method) {
     return method.getEnclosingElement().getSimpleName() + "." + method.getSimpleName();
   }
 
-  private static void readCalls() throws IOException {
-    JavaCompiler compiler = ToolProvider.getSystemJavaCompiler();
-    try (StandardJavaFileManager files = compiler.getStandardFileManager(null, null, null)) {
-      JavacTask task = (JavacTask) compiler.getTask(null, files, null, List.of("-proc:none"), null,
-          files.getJavaFileObjects(Path.of("src/main/java/CarpetLands.java")));
-      List<CompilationUnitTree> units = new ArrayList<>();
-      for (CompilationUnitTree unit : task.parse()) units.add(unit);
-      task.analyze();
-      Trees trees = Trees.instance(task);
-      for (CompilationUnitTree unit : units) new Reader(trees).scan(unit, null);
-    }
-    for (Set<Element> called : CALLS.values()) {
-      for (Element each : called) rule(4, CALLS.containsKey(each) || LIBRARY.contains(nameOf(each)), "the library's " + nameOf(each));
-      called.retainAll(CALLS.keySet());
-    }
+  @Override public Void visitMethod(MethodTree tree, Void none) {
+    Set<Element> around = calls;
+    calls = new LinkedHashSet<>();
+    CALLS.put(trees.getElement(getCurrentPath()), calls);
+    super.visitMethod(tree, none);
+    calls = around;
+    return null;
   }
 
-  /** Notes each method and what it calls. */
-  private static final class Reader extends TreePathScanner<Void, Void> {
-    private final Trees trees;
-    private Set<Element> calls = new LinkedHashSet<>();
+  @Override public Void visitClass(ClassTree tree, Void none) {
+    Set<Element> around = calls;
+    super.visitClass(tree, none);
+    calls = around;
+    return null;
+  }
 
-    Reader(Trees trees) {
-      this.trees = trees;
-    }
+  @Override public Void visitMethodInvocation(MethodInvocationTree tree, Void none) {
+    note();
+    return super.visitMethodInvocation(tree, none);
+  }
 
-    @Override public Void visitMethod(MethodTree tree, Void none) {
-      Set<Element> around = calls;
-      calls = new LinkedHashSet<>();
-      CALLS.put(trees.getElement(getCurrentPath()), calls);
-      super.visitMethod(tree, none);
-      calls = around;
-      return null;
-    }
+  @Override public Void visitNewClass(NewClassTree tree, Void none) {
+    note();
+    return super.visitNewClass(tree, none);
+  }
 
-    @Override public Void visitClass(ClassTree tree, Void none) {
-      Set<Element> around = calls;
-      super.visitClass(tree, none);
-      calls = around;
-      return null;
-    }
-
-    @Override public Void visitMethodInvocation(MethodInvocationTree tree, Void none) {
-      note();
-      return super.visitMethodInvocation(tree, none);
-    }
-
-    @Override public Void visitNewClass(NewClassTree tree, Void none) {
-      note();
-      return super.visitNewClass(tree, none);
-    }
-
-    private void note() {
-      Element called = trees.getElement(getCurrentPath());
-      if (called instanceof ExecutableElement) calls.add(called);
-    }
+  private void note() {
+    Element called = trees.getElement(getCurrentPath());
+    if (called instanceof ExecutableElement) calls.add(called);
   }
 
   private static boolean comesBack(Element method) {

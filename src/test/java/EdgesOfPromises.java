@@ -723,7 +723,15 @@ public final class EdgesOfPromises extends Due {
     due(x, 12, "told", 1);
     due(x, 0, "count", 1);
     due(x, 0, "count", 3);
+    // DAYS, not days by draws: the first draws make a hole of knot 14, from which a cat would not come away.
+    x = withWalkers(10);
+    due(x, 15, "then", 1, 0, 0);
+    due(x, 1, "count", 8);
+    x.loose(1);
+    due(x, 14, "ofWalker", 0, 2);
     // It is only thought, so no day is too late.
+    x = withWalkers(0, 0, 0, 0, 0);
+    x.put(4, 3, 0);
     toDay(x, 9999);
     int at = x.ofWalker(4, 2);
     due(x, at, "then", 0, 4, 0);
@@ -1077,6 +1085,21 @@ public final class EdgesOfPromises extends Due {
     due(x, 2, "count", 7);
     due(x, 2, "told", 2);
     due(x, 2, "image");
+    // Each sheet stays as it is, whether the image was made ahead of it or behind it.
+    x = new CarpetLands();
+    for (int s = 0; s <= 3; s++) {
+      sheet(x, s, 8 << s % 3, ONES);
+      x.image();
+      x.write(s, 0, 7);
+      x.restore();
+    }
+    for (int s = 0; s <= 3; s++) {
+      due(x, 0, "judge", s);
+      due(x, 36, "colours", s);
+      due(x, 7, "ofKnot", 0, 0);
+      due(x, -1, "judge", s);
+      x.restore();
+    }
   }
 
   private static void restore() {

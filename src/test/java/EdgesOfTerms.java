@@ -6,6 +6,8 @@ public final class EdgesOfTerms extends Due {
   private static final int WEST = 3;
 
   public static void main(String[] args) {
+    callsAtMost();
+    asksAtMost();
     errors();
     carpetOfKnots();
     landsAtEdges();
@@ -56,6 +58,65 @@ public final class EdgesOfTerms extends Due {
     CarpetLands x = new CarpetLands();
     if (colour != 1) for (int k = 0; k < KNOTS; k++) x.knot(k, 0, colour);
     return x;
+  }
+
+  private static final int CALLS = 512;
+
+  private static void callsAtMost() {
+    sentence("An object is used for at most 512 calls after it has been made: what it has gathered is so to the last");
+    CarpetLands x = new CarpetLands();
+    for (int i = 1; i <= CALLS; i++) due(x, i, "image");
+    x = new CarpetLands();
+    for (int i = 1; i < CALLS; i++) due(x, BEYOND, "told", 0);
+    due(x, CALLS - 1, "told", 1);
+    x = new CarpetLands();
+    for (int i = 1; i < CALLS; i++) due(x, 0, "days", 19);
+    due(x, 19 * (CALLS - 1), "count", 1);
+    x = new CarpetLands();
+    int z = 1;
+    for (int i = 1; i < CALLS; i++) {
+      x.loose(1);
+      for (int draw = 0; draw < 2; draw++) z = z * 1103515245 + 12345;
+    }
+    due(x, z, "count", 8);
+    x = new CarpetLands();
+    for (int i = 1; i < CALLS - 1; i += 2) {
+      due(x, 1, "feed", '1' + i % 7, 1);
+      due(x, 1, "text", 0);
+    }
+    // The last text was 6, as 509 leaves 5 by 7.
+    due(x, 7, "law", 0, 0, 0, 0);
+    x = new CarpetLands();
+    x.walker(60, 0);
+    for (int i = 2; i < CALLS - 1; i++) due(x, i * 2, "voice", 0, 1, i);
+    due(x, 11, "trace", 0);
+    due(x, 2, "count", 7);
+  }
+
+  private static void asksAtMost() {
+    sentence("An object is used for at most 512 calls after it has been made: what changes nothing answers as at first");
+    String[] calls = {"slips", "stays", "check", "restore"};
+    int[] due = {31, 255, 0, NONE};
+    for (int c = 0; c < calls.length; c++) {
+      CarpetLands x = new CarpetLands();
+      for (int i = 0; i < CALLS; i++) due(x, due[c], calls[c]);
+    }
+    String[] asks = {"greatest", "lands", "nextTo", "mends", "again", "cut", "text", "judge", "trace", "count"};
+    int[] answers = {36, 0, 0, 0, 1, 2, -10, NONE, NONE, 0};
+    for (int c = 0; c < asks.length; c++) {
+      CarpetLands x = new CarpetLands();
+      for (int i = 0; i < CALLS; i++) due(x, answers[c], asks[c], asks[c].equals("mends") ? 1 : 0);
+    }
+    CarpetLands x = new CarpetLands();
+    for (int i = 0; i < CALLS; i++) due(x, 10, "road", 0, 35, 255);
+    x = new CarpetLands();
+    for (int i = 0; i < CALLS; i++) due(x, 36, "dyed", 35, 3, -1);
+    x = new CarpetLands();
+    x.walker(0, 0);
+    for (int i = 1; i < CALLS; i++) due(x, 0, "then", 100, 0, 0);
+    x = new CarpetLands();
+    x.sheet(3, 32, 36);
+    for (int i = 1; i < CALLS; i++) due(x, i % 2 == 0 ? 121 : 505, "layings", 3, i % 2);
   }
 
   private static void errors() {
@@ -1071,6 +1132,12 @@ public final class EdgesOfTerms extends Due {
     // Knot 14 is a hole, so the cat there has no land to keep to.
     due(x, 14, "ofWalker", 0, 2);
     due(x, 1, "ofKnot", 14, 1);
+    // Its COLOUR alone is drawn.
+    x = new CarpetLands();
+    x.knot(14, 1, 55);
+    x.loose(1);
+    due(x, 55, "ofKnot", 14, 1);
+    due(x, 55, "count", 3);
   }
 
   private static void voicesWrap() {

@@ -82,15 +82,5 @@ public final class LanguageRules {
     while (banned.find()) rule(6, false, banned.group() + " stands in the source");
     Matcher texts = Pattern.compile("\"\"\\s*\\+|\\+\\s*\"\"").matcher(code);
     rule(10, !texts.find(), "texts joined by +");
-    String[] lines = source.split("\n");
-    for (int i = 0; i < lines.length; i++) {
-      if (!lines[i].matches(" {2,4}\\w.*\\) \\{")) continue;
-      String end = lines[i].replaceAll("\\S.*", "") + "}";
-      int to = i;
-      while (to < lines.length && !lines[to].equals(end)) to++;
-      rule(11, to - i < 60, "a long method: " + lines[i].trim());
-      Matcher parameters = Pattern.compile(",").matcher(lines[i]);
-      rule(11, parameters.results().count() < 7, "many parameters: " + lines[i].trim());
-    }
   }
 }
