@@ -189,6 +189,20 @@ public final class EdgesOfPromises extends Due {
     due(x, 1, "ofKnot", 0, 0);
     due(x, 4, "ofKnot", 35, 0);
     due(x, 7, "ofKnot", 1, 0);
+    // By the TEXT there is, and the DAY it is; an image of another one doesn't matter, nor what was thought.
+    x = holes();
+    x.image();
+    x.check();
+    learn(x, 0, "d+r");
+    x.days(2);
+    due(x, 6, "mends", 3);
+    due(x, 36, "mend");
+    for (int k = 0; k < KNOTS; k++) due(x, (2 + k / 6) % 7 + 1, "ofKnot", k, 0);
+    x.days(1);
+    x.knot(35, 0, 0);
+    due(x, 1, "mend");
+    due(x, 2, "ofKnot", 35, 0);
+    due(x, 1, "ofKnot", 34, 0);
   }
 
   private static void walker() {
@@ -662,6 +676,20 @@ public final class EdgesOfPromises extends Due {
     x.write(1, 35, 0);
     due(x, 1, "layings", 1, 0);
     due(x, 0, "layings", 1, 1);
+
+    // By the COLOURS there are: a carpet of 1, 2, .. 6 in rows upon itself, by rows alone; then by one more, too.
+    CarpetLands y = carpet("111111", "222222", "333333", "444444", "555555", "666666");
+    y.image();
+    sheet(y, 1, 8, "111111222222333333444444555555666666");
+    due(y, 11, "layings", 1, 0);
+    due(y, 505, "layings", 1, 1);
+    lay(y, "222222", "333333", "444444", "555555", "666666", "777777");
+    due(y, 11, "layings", 1, 0);
+    due(y, 405, "layings", 1, 1);
+    for (int k = 0; k < KNOTS; k++) y.knot(k, 0, 0);
+    due(y, 121, "layings", 1, 0);
+    y.restore();
+    due(y, 505, "layings", 1, 1);
 
     sentence("promise 26: BEYOND ahead of NONE");
     dueEach(x, BEYOND, "layings", 1, each(-1, 2, LEAST, MOST), 2, 0);

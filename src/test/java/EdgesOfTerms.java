@@ -348,6 +348,14 @@ public final class EdgesOfTerms extends Due {
         }
       }
     }
+    // To each corner, too: from the knot beside it and from the one above or below it.
+    int[][] into = {{1, 0, WEST}, {6, 0, NORTH}, {4, 5, EAST}, {11, 5, NORTH}, {31, 30, WEST}, {24, 30, SOUTH}, {34, 35, EAST}, {29, 35, SOUTH}};
+    for (int[] i : into) {
+      CarpetLands x = new CarpetLands();
+      x.walker(39, 0);
+      x.knot(i[1], 0, 2);
+      dueStep(x, i[0], EAST, i[1], i[2]);
+    }
     // The colour where it is doesn't matter, and a hole is the least of all.
     CarpetLands x = plain(0);
     x.walker(39, 14);
@@ -877,6 +885,10 @@ public final class EdgesOfTerms extends Due {
     due(x, 10, "road", 35, 0, 2);
     due(x, 2, "road", 5, 10, 2);
     due(x, 9, "road", 5, 0, 2);
+    // A long one, all around; back it's as long.
+    x = carpet("001011", "011101", "110111", "011101", "110111", "011011");
+    due(x, 27, "road", 23, 32, 2);
+    due(x, 27, "road", 32, 23, 2);
     // Neither from the end of a row to the start of the next one, nor round the edge.
     x = carpet("000001", "100000", "000000", "000000", "000000", "000001");
     due(x, NONE, "road", 5, 6, 2);
